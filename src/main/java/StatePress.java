@@ -347,17 +347,16 @@ public final class StatePress {
             }
         }
 
+        /** Zeros up to the end of a byte. */
         void closeBits() {
             if (held > 0) {
-                put((int) hold);
+                addBits(0, 8 - held);
             }
-            hold = 0;
-            held = 0;
         }
 
+        /** A 1, the END, and zeros up to the end of a byte. */
         void endStream() {
-            addBits(1, 1);
-            closeBits();
+            addBits(1, 8 - held);
         }
 
         int at(int k) {
@@ -888,21 +887,30 @@ public final class StatePress {
         /** Appends the description of the codes: false, and nothing is appended, when they have none. */
         boolean describe(Codes codes, Row told) {
             int k = weigh(codes);
-            int states = byStates(k);
+            boolean varied = k >= 2 && counts[weights[0]] < k;
+            for (int order = LEAST_ORDER; varied && order <= WEIGHT_ORDER; order++) {
+                share.weigh(counts, order);
+                share.spread();
+                other.drop();
+                share.tell(other);
+                putTwoStates(other, k);
+                if (order == LEAST_ORDER || other.used < best.used) {
+                    Row spare = best;
+                    best = other;
+                    other = spare;
+                }
+            }
+            int states = varied && best.used < 128 ? best.used : 0;
             int direct = k <= 128 ? (k + 1) / 2 : 0;
             if (direct > 0 && (states == 0 || direct <= states)) {
-                told.put(127 + k);
-                for (int i = 0; i < k; i += 2) {
-                    told.put(16 * weights[i] + (i + 1 < k ? weights[i + 1] : 0));
-                }
+                putDirect(told, k);
                 return true;
             }
-            if (states == 0) {
-                return false;
+            if (states > 0) {
+                told.put(states);
+                told.putRow(best, 0, states);
             }
-            told.put(states);
-            told.putRow(best, 0, states);
-            return true;
+            return states > 0;
         }
 
         private int weigh(Codes codes) {
@@ -918,24 +926,11 @@ public final class StatePress {
             return k;
         }
 
-        /** How many bytes the best row has then, 0 when this way is not there. */
-        private int byStates(int k) {
-            if (k < 2 || counts[weights[0]] == k) {
-                return 0;
+        private void putDirect(Row row, int k) {
+            row.put(127 + k);
+            for (int i = 0; i < k; i += 2) {
+                row.put(16 * weights[i] + (i + 1 < k ? weights[i + 1] : 0));
             }
-            for (int order = LEAST_ORDER; order <= WEIGHT_ORDER; order++) {
-                share.weigh(counts, order);
-                share.spread();
-                other.drop();
-                share.tell(other);
-                putTwoStates(other, k);
-                if (order == LEAST_ORDER || other.used < best.used) {
-                    Row spare = best;
-                    best = other;
-                    other = spare;
-                }
-            }
-            return best.used < 128 ? best.used : 0;
         }
 
         private void putTwoStates(Row row, int k) {
@@ -1200,6 +1195,7 @@ public final class StatePress {
     /** One of the three numbers of all sequences of a block, and the ways of telling its table. */
     private static final class Column {
         private static final int NO_BOUND = 1 << 30;
+        private static final int LEAST_SHARE = 16;
         private final int[] bases;
         private final int[] widths;
         private final int greatest;
@@ -1263,6 +1259,9 @@ public final class StatePress {
 
         /** Takes the best mode: its cost in bits, with the additional ones. */
         int choose() {
+            if (used == 0) {
+                return 0;
+            }
             bits = NO_BOUND;
             if (known.canTell(counts)) {
                 consider(0, known, known.rowBits(symbols, used));
@@ -1298,13 +1297,13 @@ public final class StatePress {
             int best = 0;
             orderBits = bound;
             for (int order = LEAST_ORDER; order <= greatest; order++) {
-                if (1 << order < different) {
+                // A share takes two bytes at least and its row the last state, so many orders are out at once.
+                if (1 << order < different || LEAST_SHARE + order >= orderBits) {
                     continue;
                 }
                 fresh.weigh(counts, order);
                 told.drop();
                 fresh.tell(told);
-                // The row costs at least its last state, so most orders are out before their places are known.
                 if (8 * told.used + order < orderBits) {
                     fresh.spread();
                     int cost = 8 * told.used + fresh.rowBits(symbols, used);
@@ -1600,7 +1599,8 @@ public final class StatePress {
             }
             go(from, to);
             boolean renewed = !literals.areFew() && literals.renew();
-            int packed = literals.choose(renewed) + sequenceBytes();
+            int bits = literalLengths.choose() + distances.choose() + matchLengths.choose();
+            int packed = literals.choose(renewed) + sequenceBytes(bits);
             if (packed < n) {
                 row.putNumber(8L * packed + 4 + end, 3);
                 literals.put(row);
@@ -1613,12 +1613,11 @@ public final class StatePress {
             }
         }
 
-        /** Takes the best modes: how many bytes the sequences have then. */
-        private int sequenceBytes() {
+        /** How many bytes the sequences have, when their tables and their stream have so many bits. */
+        private int sequenceBytes(int bits) {
             if (count == 0) {
                 return 1;
             }
-            int bits = literalLengths.choose() + distances.choose() + matchLengths.choose();
             int tables = literalLengths.tableBytes() + distances.tableBytes() + matchLengths.tableBytes();
             int stream = (bits - 8 * tables) / 8 + 1;
             return countBytes() + 1 + tables + stream;
