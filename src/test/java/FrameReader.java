@@ -307,21 +307,38 @@ final class FrameReader {
     private final ByteArrayOutputStream content = new ByteArrayOutputStream();
     private long window;
 
+    private final List<int[]> copies = new ArrayList<>();
+
     /** The content of a frame. */
     static byte[] content(byte[] frame, PlainPress.Book book) {
+        return read(frame, book).content.toByteArray();
+    }
+
+    /** The sequences of a frame: literal length, distance, match length, one behind the other. */
+    static List<Integer> copies(byte[] frame, PlainPress.Book book) {
+        List<Integer> all = new ArrayList<>();
+        for (int[] copy : read(frame, book).copies) {
+            for (int x : copy) {
+                all.add(x);
+            }
+        }
+        return all;
+    }
+
+    private static FrameReader read(byte[] frame, PlainPress.Book book) {
         FrameReader reader = new FrameReader(frame, 0);
         reader.codes = book.lengths;
         System.arraycopy(book.tables, 0, reader.tables, 0, 3);
         reader.latest = book.latest.clone();
         reader.before = book.content;
-        byte[] read = reader.frame(book.id);
+        reader.frame(book.id);
         if (reader.at != frame.length) {
             throw bad("bytes behind the frame");
         }
-        return read;
+        return reader;
     }
 
-    private byte[] frame(long id) {
+    private void frame(long id) {
         if (number(4) != 0xFD2FB528L) {
             throw bad("no frame");
         }
@@ -355,7 +372,6 @@ final class FrameReader {
         if ((head & 4) != 0 && (wideSum(all).longValue() & 0xFFFFFFFFL) != number(4)) {
             throw bad("sum");
         }
-        return all;
     }
 
     private boolean block() {
@@ -495,6 +511,7 @@ final class FrameReader {
     private void copy(int literalLength, int v, int matchLength) {
         int distance = PlainPress.said(v, literalLength, latest);
         PlainPress.change(v, literalLength, latest);
+        copies.add(new int[] {literalLength, distance, matchLength});
         int sofar = content.size();
         if (distance < 1 || distance > sofar + before.length || distance > window) {
             throw bad("too far");
