@@ -15,9 +15,13 @@ public final class CompareTest {
     private static void round(Checks checks, Random random, String name) {
         StatePress x = new StatePress();
         PlainPress plain = new PlainPress();
-        int books = random.nextInt(3);
+        int books = random.nextInt(4);
         for (int i = 0; i < books; i++) {
             learn(checks, random, x, plain, name);
+        }
+        if (random.nextInt(6) == 0) {
+            x.forget();
+            plain.book = new PlainPress.Book();
         }
         if (random.nextInt(4) > 0) {
             plain.way = random.nextInt(4);
@@ -57,8 +61,19 @@ public final class CompareTest {
         if (want != null) {
             checks.due(name + " made", Checks.out(x), want);
             checks.due(name + " turn", x.turn(), true);
+            if (random.nextBoolean()) {
+                otherDistances(random, want, row.length);
+                Checks.feed(x, want);
+            }
             checks.due(name + " learn", x.learn(), row.length);
             plain.book = FrameReader.book(want);
+        }
+    }
+
+    private static void otherDistances(Random random, byte[] book, int content) {
+        for (int i = 0; i < 3; i++) {
+            byte[] distance = PlainPress.number(1 + random.nextInt(Math.min(content, 30)), 4);
+            System.arraycopy(distance, 0, book, book.length - content - 12 + 4 * i, 4);
         }
     }
 

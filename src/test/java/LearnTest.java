@@ -253,5 +253,38 @@ public final class LearnTest {
         CHECKS.due("forget() lets OUT be", Checks.out(x), with);
         x.press(8, 0, 1024);
         CHECKS.due("forget() lets IN be, and the dictionary go", Checks.out(x), without);
+        forgetForms();
+    }
+
+    /** The same row, with all that it would make told already, and then not any more. */
+    private static void forgetForms() {
+        byte[] row = Checks.row(new Random(30), 900);
+        StatePress x = new StatePress();
+        Checks.feed(x, row);
+        x.press(0, 3, 8000);
+        byte[] without = Checks.out(x);
+        CHECKS.due("make()", x.make(9) > 0, true);
+        byte[] book = Checks.out(x);
+        Checks.feed(x, join(Arrays.copyOf(book, book.length - row.length), CONTENT));
+        CHECKS.due("learn()", x.learn(), 8);
+        Checks.feed(x, row);
+        x.press(0, 3, 8000);
+        CHECKS.due("codes and tables of before", x.about(7) + x.about(11), 4);
+        x.forget();
+        x.press(0, 3, 8000);
+        CHECKS.due("codes and tables are forgotten", x.about(7) + x.about(11), 0);
+        CHECKS.due("the frame without them", Checks.out(x), without);
+        // A plain one has none of them either, whatever was learned before it.
+        for (int i = 0; i < 2; i++) {
+            Checks.feed(x, join(Arrays.copyOf(book, book.length - row.length), CONTENT));
+            CHECKS.due("learn()", x.learn(), 8);
+        }
+        Checks.feed(x, Arrays.copyOf(book, book.length - row.length));
+        CHECKS.due("learn() of one without content", x.learn(), -4);
+        x.clear();
+        CHECKS.due("learn() of nothing", x.learn(), 0);
+        Checks.feed(x, row);
+        x.press(0, 3, 8000);
+        CHECKS.due("the frame with a plain one of no bytes", Checks.out(x), without);
     }
 }

@@ -9,6 +9,7 @@ public final class MakeTest {
         refused();
         made();
         byTheRule();
+        manyLengths();
         random();
         CHECKS.end();
     }
@@ -64,7 +65,14 @@ public final class MakeTest {
             for (int least = 3; least < 9; least++) {
                 StatePress x = new StatePress();
                 Checks.feed(x, row);
-                x.learn();
+                x.make(3);
+                byte[] book = Checks.out(x);
+                // Other distances than 1, 4, 8, which a frame would begin with.
+                for (int i = 0; i < 3; i++) {
+                    book[book.length - row.length - 12 + 4 * i] = (byte) (5 + 2 * i);
+                }
+                Checks.feed(x, book);
+                CHECKS.due("learn", x.learn(), row.length);
                 Checks.feed(x, row);
                 x.rule(way, least);
                 PlainPress plain = new PlainPress();
@@ -72,8 +80,36 @@ public final class MakeTest {
                 plain.least = least;
                 byte[] want = plain.make(row, 5);
                 CHECKS.due("make by a rule", x.make(5), want == null ? -1 : want.length);
-                CHECKS.due("make by a rule", Checks.out(x), want == null ? new byte[0] : want);
+                CHECKS.due("make by a rule", Checks.out(x), want == null ? book : want);
             }
+        }
+    }
+
+    /** Up to 32 different symbols an order of 5 is enough. */
+    private static void manyLengths() {
+        for (int n = 30; n < 36; n++) {
+            Random random = new Random(6);
+            byte[] row = new byte[4000];
+            int at = 0;
+            for (; at < 600; at++) {
+                row[at] = (byte) random.nextInt(250);
+            }
+            for (int i = 0; i < n; i++) {
+                int length = i < 32 ? i + 3 : 2 * i - 29;
+                int from = i * 13;
+                System.arraycopy(row, from, row, at, length);
+                row[at + length] = (byte) (250 + i % 6);
+                at += length + 1;
+            }
+            row = Arrays.copyOf(row, at);
+            PlainPress plain = new PlainPress();
+            int[] symbols = plain.go(row, 0, 8000, new int[] {1, 4, 8}).symbols(2);
+            CHECKS.due("different symbols", Arrays.stream(symbols).distinct().count(), n);
+            StatePress x = new StatePress();
+            Checks.feed(x, row);
+            byte[] want = plain.make(row, n);
+            CHECKS.due(n + " different symbols", x.make(n), want.length);
+            CHECKS.due(n + " different symbols", Checks.out(x), want);
         }
     }
 

@@ -134,6 +134,49 @@ public final class PressTest {
             }
         }
         evenAndSteep();
+        plainHeads();
+        sameLiterals();
+    }
+
+    /** Literals as even as can be stand for themselves, and a copy behind them makes it worth packing. */
+    private static void plainHeads() {
+        int[] numbers = {31, 32, 33, 4095, 4096, 4097, 7900};
+        for (int n : numbers) {
+            Random random = new Random(n);
+            byte[] row = new byte[n + 60];
+            for (int i = 0; i < row.length; i++) {
+                row[i] = i < n ? (byte) (random.nextInt(64) * 4 + i % 4) : row[i - n];
+            }
+            StatePress x = new StatePress();
+            PlainPress plain = new PlainPress();
+            plain.least = 8;
+            x.rule(2, 8);
+            same(n + " plain literals", x, plain, row, 4, 0, 8000);
+            CHECKS.due(n + " plain literals, k 0", x.about(4), 1);
+        }
+    }
+
+    /** One and the same byte between parts of the dictionary. */
+    private static void sameLiterals() {
+        int[] numbers = {1, 2, 3, 5, 31, 32, 33, 200};
+        for (int n : numbers) {
+            Random random = new Random(n);
+            byte[] content = new byte[2000];
+            for (int i = 0; i < content.length; i++) {
+                content[i] = (byte) random.nextInt(255);
+            }
+            byte[] row = new byte[9 * n + 8];
+            for (int i = 0; i < row.length; i++) {
+                row[i] = i % 9 == 8 ? -1 : content[i / 9 * 97 % 1900 + i % 9];
+            }
+            StatePress x = new StatePress();
+            Checks.feed(x, content);
+            x.learn();
+            PlainPress plain = new PlainPress();
+            plain.book = FrameReader.book(content);
+            same(n + " times the same literal", x, plain, row, 0, 3, 4096);
+            CHECKS.due(n + " times the same literal, k 1", x.about(5), n == 1 ? 0 : 1);
+        }
     }
 
     private static void evenAndSteep() {
