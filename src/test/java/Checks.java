@@ -8,12 +8,20 @@ import java.util.Random;
 final class Checks {
     private int checked;
     private int wrong;
+    private String by = "";
+
+    /** From now on what is due is so by these words of a promise, or of a term that it uses. */
+    void says(int promise, String words) {
+        by = "";
+        due("the document says, for promise " + promise + ", \"" + words + "\"", Document.says(promise, words), true);
+        by = "Promise " + promise + ", \"" + words + "\": ";
+    }
 
     void due(String call, long got, long want) {
         checked++;
         if (got != want) {
             wrong++;
-            System.out.println(call + " answered " + got + ", due is " + want);
+            System.out.println(by + call + " answered " + got + ", due is " + want);
         }
     }
 
@@ -26,7 +34,7 @@ final class Checks {
         if (!Arrays.equals(got, want)) {
             wrong++;
             int k = Arrays.mismatch(got, want);
-            System.out.println(call + ": " + got.length + " bytes, due are " + want.length + ", the first other one is " + k);
+            System.out.println(by + call + ": " + got.length + " bytes, due are " + want.length + ", the first other one is " + k);
         }
     }
 

@@ -17,6 +17,24 @@ final class FrameReader {
         }
     }
 
+    /** What a block is made of; -1 is what it has not. */
+    static final class Block {
+        int kind;
+        /** The number of its head. */
+        int size;
+        int literalKind = -1;
+        int literalShape = -1;
+        int literals = -1;
+        /** The first byte of its description. */
+        int described = -1;
+        /** How many bytes its four streams have. */
+        int[] streams;
+        int sequences = -1;
+        /** Of literal lengths, distances, match lengths, as are the points of the tables. */
+        int[] modes;
+        int[][] points;
+    }
+
     private final byte[] row;
     private int at;
 
@@ -308,6 +326,12 @@ final class FrameReader {
     private long window;
 
     private final List<int[]> copies = new ArrayList<>();
+    private final List<Block> blocks = new ArrayList<>();
+    private Block now;
+
+    static List<Block> blocks(byte[] frame, PlainPress.Book book) {
+        return read(frame, book).blocks;
+    }
 
     /** The content of a frame. */
     static byte[] content(byte[] frame, PlainPress.Book book) {
@@ -318,9 +342,16 @@ final class FrameReader {
     static List<Integer> copies(byte[] frame, PlainPress.Book book) {
         List<Integer> all = new ArrayList<>();
         for (int[] copy : read(frame, book).copies) {
-            for (int x : copy) {
-                all.add(x);
-            }
+            all.addAll(List.of(copy[0], copy[1], copy[2]));
+        }
+        return all;
+    }
+
+    /** The numbers by which the distances of a frame are told. */
+    static List<Integer> tellings(byte[] frame, PlainPress.Book book) {
+        List<Integer> all = new ArrayList<>();
+        for (int[] copy : read(frame, book).copies) {
+            all.add(copy[3]);
         }
         return all;
     }
@@ -381,6 +412,10 @@ final class FrameReader {
             throw bad("a block too large");
         }
         int kind = head >> 1 & 3;
+        now = new Block();
+        now.kind = kind;
+        now.size = n;
+        blocks.add(now);
         if (kind == 0) {
             content.writeBytes(take(n));
         } else if (kind == 1) {
@@ -405,8 +440,11 @@ final class FrameReader {
         int k = h & 3;
         int l = h >> 2 & 3;
         at--;
+        now.literalKind = k;
+        now.literalShape = l;
         if (k < 2) {
             int n = (l & 1) == 0 ? one() / 8 : (int) number(l == 1 ? 2 : 3) / 16;
+            now.literals = n;
             byte[] all = new byte[n];
             if (k == 0) {
                 return take(n);
@@ -418,7 +456,9 @@ final class FrameReader {
         int bits = l < 2 ? 10 : l == 2 ? 14 : 18;
         int n = (int) (head >> 4) & (1 << bits) - 1;
         int end = at + (int) (head >> 4 + bits & (1 << bits) - 1);
+        now.literals = n;
         if (k == 2) {
+            now.described = row[at] & 255;
             codes = description();
         }
         if (codes == null) {
@@ -432,6 +472,7 @@ final class FrameReader {
     private byte[] fourStreams(int n, int end) {
         int[] lengths = {(int) number(2), (int) number(2), (int) number(2)};
         int c = (n + 3) / 4;
+        now.streams = new int[] {lengths[0], lengths[1], lengths[2], end - at - lengths[0] - lengths[1] - lengths[2]};
         byte[] all = new byte[0];
         for (int i = 0; i < 3; i++) {
             all = PlainPress.join(all, stream(c, at + lengths[i]));
@@ -460,12 +501,18 @@ final class FrameReader {
         int x = one();
         int n = x < 128 ? x : x < 255 ? 256 * (x - 128) + one() : (int) number(2) + 32512;
         int taken = 0;
+        now.sequences = n;
         if (n > 0) {
             int modes = one();
+            now.modes = new int[] {modes >> 6, modes >> 4 & 3, modes >> 2 & 3};
             PlainPress.Table[] three = new PlainPress.Table[3];
             for (int kind = 0; kind < 3; kind++) {
                 table(kind, modes >> (6 - 2 * kind) & 3, end);
                 three[kind] = new PlainPress.Table(tables[kind]);
+            }
+            now.points = tables.clone();
+            if ((modes & 3) != 0) {
+                throw bad("modes");
             }
             Down down = new Down(row, at, end);
             int[] states = new int[3];
@@ -511,7 +558,7 @@ final class FrameReader {
     private void copy(int literalLength, int v, int matchLength) {
         int distance = PlainPress.said(v, literalLength, latest);
         PlainPress.change(v, literalLength, latest);
-        copies.add(new int[] {literalLength, distance, matchLength});
+        copies.add(new int[] {literalLength, distance, matchLength, v});
         int sofar = content.size();
         if (distance < 1 || distance > sofar + before.length || distance > window) {
             throw bad("too far");

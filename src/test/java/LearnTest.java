@@ -4,14 +4,13 @@ import java.util.Random;
 /** Promises 7 and 8: learn, forget. */
 public final class LearnTest {
     private static final Checks CHECKS = new Checks();
-    private static final byte[] MARK = Checks.bytes(55, 164, 48, 236);
-    private static final byte[] ID = Checks.bytes(7, 0, 0, 0);
-    /** Two codes of one bit, for 0 and 1. */
-    private static final byte[] CODES = Checks.bytes(128, 0x10);
-    private static final byte[] SHARE = PlainPress.told(new int[] {16, 16});
-    private static final byte[] SHARES = PlainPress.join(SHARE, SHARE, SHARE);
-    private static final byte[] LATEST = PlainPress.join(PlainPress.number(1, 4), PlainPress.number(4, 4), PlainPress.number(8, 4));
-    private static final byte[] CONTENT = Checks.text("content!");
+    private static final byte[] MARK = Books.MARK;
+    private static final byte[] ID = Books.ID;
+    private static final byte[] CODES = Books.CODES;
+    private static final byte[] SHARE = Books.SHARE;
+    private static final byte[] SHARES = Books.SHARES;
+    private static final byte[] LATEST = Books.LATEST;
+    private static final byte[] CONTENT = Books.CONTENT;
 
     public static void main(String[] args) {
         plain();
@@ -28,27 +27,8 @@ public final class LearnTest {
         return PlainPress.join(rows);
     }
 
-    /** What learn() answers; when it is refused, IN and the dictionary before must stay. */
     private static void learns(String name, byte[] row, int want) {
-        StatePress x = new StatePress();
-        byte[] before = Checks.text("the dictionary before");
-        Checks.feed(x, before);
-        CHECKS.due("learn() of the one before", x.learn(), before.length);
-        Checks.feed(x, row);
-        CHECKS.due(name, x.learn(), want);
-        PlainPress plain = new PlainPress();
-        if (want >= 0) {
-            CHECKS.due(name + " empties IN", x.again(1, 0), false);
-            plain.book = FrameReader.book(row);
-        } else {
-            plain.book = FrameReader.book(before);
-            CHECKS.due(name + " lets IN be", x.press(8, 0, 1024), plain.press(row, 8, 0, 1024).length);
-            CHECKS.due(name + " lets IN be", Checks.out(x), plain.press(row, 8, 0, 1024));
-        }
-        byte[] after = Checks.text("the dictionary before, content!content!, the content");
-        Checks.feed(x, after);
-        x.press(8, 0, 1024);
-        CHECKS.due(name + " then", Checks.out(x), plain.press(after, 8, 0, 1024));
+        Books.learns(CHECKS, name, row, want);
     }
 
     private static void plain() {

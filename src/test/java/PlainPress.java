@@ -24,8 +24,22 @@ final class PlainPress {
         points(1, 6, 2, 3, 1, 15, -1, 5),
         points(1, 1, 4, 1, 3, 1, 2, 6, 1, 37, -1, 7)};
 
+    /** What every way of telling a row takes, -1 for one that is not there. */
+    static final class Trial {
+        int row;
+        int packed;
+        /** Bytes of the literals with k 0 .. 3. */
+        final int[] literals = {-1, -1, -1, -1};
+        /** Bits of the tables of literal lengths, distances, match lengths by mode. */
+        final int[][] modes = new int[3][];
+        /** Bits of these by the order of mode 2. */
+        final int[][] orders = new int[3][];
+    }
+
     int way = 2;
     int least = 3;
+    /** Of the latest press, for the rows that are not of one and the same byte. */
+    List<Trial> trials = new ArrayList<>();
     Book book = new Book();
     int[] abouts = new int[12];
 
@@ -212,7 +226,7 @@ final class PlainPress {
         return direct.length <= states.length ? direct : states;
     }
 
-    private static byte[] twoStates(int[] weights, int order) {
+    static byte[] twoStates(int[] weights, int order) {
         int[] counts = new int[12];
         for (int weight : weights) {
             counts[weight]++;
@@ -284,6 +298,10 @@ final class PlainPress {
     }
 
     static byte[] told(int[] points) {
+        return bytes(toldBits(points));
+    }
+
+    static String toldBits(int[] points) {
         int order = order(points);
         StringBuilder text = new StringBuilder(bits(order - 5, 4));
         int lack = 1 << order;
@@ -308,7 +326,7 @@ final class PlainPress {
                 text.append(bits(zeros, 2));
             }
         }
-        return bytes(text.toString());
+        return text.toString();
     }
 
     /** The places of a share. */
@@ -605,23 +623,35 @@ final class PlainPress {
         return row.length > 0;
     }
 
-    /** The share of the order that mode 2 takes. */
-    static int[] formed(int[] symbols, int kind) {
+    /** The bits of mode 2 by the order, -1 for an order that is not there. */
+    static int[] orderCosts(int[] symbols, int kind) {
         int[] counts = counts(symbols, LAST[kind] + 1);
         long different = Arrays.stream(counts).filter(c -> c > 0).count();
-        int[] best = null;
-        int cost = 0;
-        for (int order = 5; order <= GREATEST[kind]; order++) {
-            if (1 << order >= different) {
+        int[] costs = new int[GREATEST[kind] + 1];
+        for (int order = 0; order < costs.length; order++) {
+            costs[order] = -1;
+            if (order >= 5 && 1 << order >= different) {
                 int[] points = byCounts(counts, order);
-                int own = 8 * told(points).length + new Table(points).cost(symbols);
-                if (best == null || own < cost) {
-                    best = points;
-                    cost = own;
-                }
+                costs[order] = 8 * told(points).length + new Table(points).cost(symbols);
+            }
+        }
+        return costs;
+    }
+
+    /** The order that mode 2 takes. */
+    static int cheapest(int[] costs) {
+        int best = 0;
+        for (int order = 5; order < costs.length; order++) {
+            if (costs[order] >= 0 && (best == 0 || costs[order] < costs[best])) {
+                best = order;
             }
         }
         return best;
+    }
+
+    /** The share of the order that mode 2 takes. */
+    static int[] formed(int[] symbols, int kind) {
+        return byCounts(counts(symbols, LAST[kind] + 1), cheapest(orderCosts(symbols, kind)));
     }
 
     private byte[] packed(Found found, int[][] tablesThen, int[][] codesThen, int[] told) {
@@ -645,6 +675,11 @@ final class PlainPress {
         }
         codesThen[0] = k == 2 ? fresh : codes;
         told[0] = k;
+        Trial trial = new Trial();
+        trials.add(trial);
+        for (int way = 0; way < 4; way++) {
+            trial.literals[way] = ways[way] == null ? -1 : ways[way].length;
+        }
         int count = found.sequences.size();
         byte[] head = count < 128 ? number(count, 1)
             : count < 32512 ? new byte[] {(byte) (128 + count / 256), (byte) count}
@@ -661,8 +696,9 @@ final class PlainPress {
             if (Arrays.stream(symbols).distinct().count() == 1) {
                 cost[1] = 8;
             }
-            int[] points = formed(symbols, kind);
-            cost[2] = 8 * told(points).length + new Table(points).cost(symbols);
+            int[] orders = orderCosts(symbols, kind);
+            int[] points = byCounts(counts(symbols, LAST[kind] + 1), cheapest(orders));
+            cost[2] = orders[cheapest(orders)];
             if (tables[kind] != null) {
                 cost[3] = new Table(tables[kind]).cost(symbols);
             }
@@ -673,6 +709,8 @@ final class PlainPress {
                 }
             }
             told[1 + kind] = mode;
+            trial.modes[kind] = cost;
+            trial.orders[kind] = orders;
             int[] alone = new int[symbols[0] + 1];
             alone[symbols[0]] = 1;
             tablesThen[kind] = mode == 0 ? KNOWN[kind] : mode == 1 ? alone : mode == 2 ? points : tables[kind];
@@ -716,6 +754,7 @@ final class PlainPress {
         System.arraycopy(book.tables, 0, tables, 0, 3);
         int[] now = new int[12];
         byte[] frame = head(in, flags, e);
+        trials = new ArrayList<>();
         int from = 0;
         do {
             int to = Math.min(in.length, from + cut);
@@ -731,6 +770,8 @@ final class PlainPress {
                 int[][] codesThen = new int[1][];
                 int[] told = new int[4];
                 byte[] packed = packed(found, tablesThen, codesThen, told);
+                trials.get(trials.size() - 1).row = row.length;
+                trials.get(trials.size() - 1).packed = packed.length;
                 if (packed.length < row.length) {
                     frame = join(frame, number(8L * packed.length + 4 + end, 3), packed);
                     latest = found.latest;
