@@ -1321,11 +1321,6 @@ public final class StatePress {
             fresh.tell(told);
         }
 
-        /** How many of the bytes are the table's, and not the stream's. */
-        int tableBytes() {
-            return mode == 1 ? 1 : mode == 2 ? told.used : 0;
-        }
-
         void putTable(Row row) {
             if (mode == 1) {
                 row.put(symbols[0]);
@@ -1613,14 +1608,9 @@ public final class StatePress {
             }
         }
 
-        /** How many bytes the sequences have, when their tables and their stream have so many bits. */
+        /** How many bytes the sequences have, when their tables, which take whole ones, and their stream have so many bits. */
         private int sequenceBytes(int bits) {
-            if (count == 0) {
-                return 1;
-            }
-            int tables = literalLengths.tableBytes() + distances.tableBytes() + matchLengths.tableBytes();
-            int stream = (bits - 8 * tables) / 8 + 1;
-            return countBytes() + 1 + tables + stream;
+            return count == 0 ? 1 : countBytes() + 1 + bits / 8 + 1;
         }
 
         private int countBytes() {

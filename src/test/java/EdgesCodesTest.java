@@ -17,6 +17,7 @@ public final class EdgesCodesTest {
         notDescribed();
         allOfThem();
         directOrStates();
+        greatestWeight();
         fiveOrSix();
         CHECKS.end();
     }
@@ -309,6 +310,23 @@ public final class EdgesCodesTest {
             weights[s] = PlainPress.weight(lengths, s);
         }
         return weights;
+    }
+
+    /** The greatest weight there is, of the most frequent symbol, which is not the last one, among many of 0. */
+    private static void greatestWeight() {
+        CHECKS.says(10, "A symbol's WEIGHT is T + 1 - LENGTH, 0 without a code.");
+        int[] often = {1, 1, 2, 3, 5, 8, 13, 21, 34, 55, 89, 144};
+        for (int symbols = 10; symbols <= 12; symbols++) {
+            int[] counts = new int[9 * symbols];
+            for (int i = 0; i < symbols; i++) {
+                counts[9 * (symbols - 1 - i)] = often[i];
+            }
+            byte[] told = description(made("a weight of " + (symbols - 1), rowOf(counts)));
+            CHECKS.due("a weight of " + (symbols - 1) + " by states", told[0] > 0, true);
+            int[] lengths = FrameReader.book(made("once more", rowOf(counts))).lengths;
+            CHECKS.due("the length of the most frequent one", lengths[0], 1);
+            CHECKS.due("the greatest length", PlainPress.top(lengths), symbols - 1);
+        }
     }
 
     private static void fiveOrSix() {

@@ -32,8 +32,11 @@ public final class EdgesLearnTest {
         answers();
         numbersOfShares();
         stays();
+        oneAfterAnother();
         ids();
         forget();
+        forgetLatest();
+        forgetTables();
         CHECKS.end();
     }
 
@@ -75,6 +78,26 @@ public final class EdgesLearnTest {
             CHECKS.due("no ID with " + n, x.press(8, 0, 1), 9);
         }
         learns("zeros", new byte[8000], 8000);
+        // Whatever was learned before, and how often: nothing of it is left.
+        for (int formed = 1; formed <= 3; formed++) {
+            for (int plains = 1; plains <= 3; plains++) {
+                StatePress x = new StatePress();
+                for (int i = 0; i < formed; i++) {
+                    Checks.feed(x, book());
+                    CHECKS.due("learn() of a formed one", x.learn(), Twins.ROW.length);
+                }
+                for (int i = 0; i < plains; i++) {
+                    Checks.feed(x, Checks.text("plain"));
+                    CHECKS.due("learn() of a plain one", x.learn(), 5);
+                }
+                PlainPress plain = new PlainPress();
+                plain.book.content = Checks.text("plain");
+                Checks.feed(x, Twins.ROW);
+                x.press(8, 0, 1024);
+                CHECKS.due(formed + " formed, " + plains + " plain ones: the frame", Checks.out(x), plain.press(Twins.ROW, 8, 0, 1024));
+                CHECKS.due("no codes, no tables", x.about(7) + x.about(11), 0);
+            }
+        }
     }
 
     private static void formedSizes() {
@@ -423,6 +446,7 @@ public final class EdgesLearnTest {
             full += PlainPress.toldBits(points).length() % 8 == 0 ? 1 : 0;
         }
         CHECKS.due("shares that end with the last bit of a byte", full > 0, true);
+        zerosThatLack();
         CHECKS.says(7, "What is left of the last byte counts for nothing.");
         // 31, and 1 for the next: 4 + 6 + 2 bits, four of the second byte are left.
         byte[] share = PlainPress.told(new int[] {31, 1});
@@ -434,6 +458,38 @@ public final class EdgesLearnTest {
                 learns("share " + which + ", a rest of " + rest, Books.shared(which, other), 8);
             }
         }
+    }
+
+    /** Shares whose last byte is 0: without it they are not whole, though zeros would make them so. */
+    private static void zerosThatLack() {
+        int seen = 0;
+        for (int seed = 0; seed < 20000 && seen <= 10; seed++) {
+            Random random = new Random(seed);
+            int[] points = new int[2 + random.nextInt(6)];
+            int left = 32;
+            for (int s = 0; s < points.length - 1; s++) {
+                points[s] = random.nextInt(3) == 0 ? -1 : random.nextInt(Math.max(1, left - 3));
+                left -= Math.abs(points[s]);
+            }
+            if (left < 1) {
+                continue;
+            }
+            points[points.length - 1] = left == 1 ? -1 : left;
+            byte[] share = PlainPress.told(points);
+            if (share[share.length - 1] != 0) {
+                continue;
+            }
+            seen++;
+            byte[] cut = Arrays.copyOf(share, share.length - 1);
+            byte[] head = join(Books.MARK, Books.ID, Books.CODES);
+            learns("the first share without its last byte, 0", join(head, cut), -3);
+            learns("the third share without its last byte, 0", join(head, Books.SHARE, Books.SHARE, cut), -3);
+            learns("the third share with its last byte, 0", join(head, Books.SHARE, Books.SHARE, share), -1);
+            // In a description its bytes end, but those of IN go on.
+            learns("a share of weights without its last byte, 0",
+                join(Books.MARK, Books.ID, PlainPress.number(cut.length, 1), share, Checks.bytes(255, 255), Books.SHARES, Books.LATEST, Books.CONTENT), -2);
+        }
+        CHECKS.due("shares whose last byte is 0: " + seen, seen > 10, true);
     }
 
     private static void distances() {
@@ -546,6 +602,52 @@ public final class EdgesLearnTest {
         }
     }
 
+    /** Of several dictionaries, learned or refused by one and the same object, the last one that was taken counts alone. */
+    private static void oneAfterAnother() {
+        CHECKS.says(7, "frames begin with these CODES, TABLES and LATEST distances.");
+        int[] many = new int[256];
+        for (int s = 0; s < 256; s++) {
+            many[s] = 1 + s % 7 * s % 5;
+        }
+        byte[] most = PlainPress.description(PlainPress.lengthsByCounts(many, 11));
+        byte[][] books = {
+            join(Books.MARK, Books.ID, most, share(31, 8), share(52, 9), share(35, 9), Books.latest(3, 2, 1), Books.CONTENT),
+            direct(1, 1, 2), book(), Books.shared(1, share(52, 9)), direct(0, 0, 0, 1, 1), Checks.text("0123456789"),
+            Books.described(most), Books.described(Books.CODES), direct(1), Books.shared(1, share(60, 9)), Books.MARK};
+        StatePress x = new StatePress();
+        PlainPress plain = new PlainPress();
+        Random random = new Random(1);
+        for (int i = 0; i < 120; i++) {
+            byte[] book = books[random.nextInt(books.length)];
+            Checks.feed(x, book);
+            int answer = x.learn();
+            try {
+                plain.book = FrameReader.book(book);
+                CHECKS.due("learn() of one after another", answer, plain.book.content.length);
+            } catch (FrameReader.Wrong e) {
+                CHECKS.due("learn() of one after another", answer, e.answer);
+            }
+            byte[] row = new byte[60];
+            for (int k = 0; k < row.length; k++) {
+                row[k] = (byte) random.nextInt(i % 3 == 0 ? 3 : i % 3 == 1 ? 6 : 256);
+            }
+            for (byte[] each : new byte[][] {row, join(row, Twins.ROW)}) {
+                Checks.feed(x, each);
+                x.press(8, 0, 1024);
+                CHECKS.due("the frame after one and another", Checks.out(x), plain.press(each, 8, 0, 1024));
+            }
+        }
+    }
+
+    /** A share in which all symbols up to the last one have points. */
+    private static byte[] share(int last, int order) {
+        int[] points = new int[last + 1];
+        Arrays.fill(points, 2);
+        points[1] = -1;
+        points[0] = (1 << order) - 2 * (last - 1) - 1;
+        return PlainPress.told(points);
+    }
+
     private static void ids() {
         CHECKS.says(7, "there follow the ID in four bytes,");
         long[] ids = {0, 1, 127, 128, 254, 255, 256, 257, 32768, 65534, 65535, 65536, 65537, 0xFFFFFFL, 0x1000000L,
@@ -595,6 +697,75 @@ public final class EdgesLearnTest {
             }
             Checks.feed(x, book);
             CHECKS.due("learn() once more", x.learn() >= 0, true);
+        }
+    }
+
+    /** A dictionary may go by forget(), by another one, or by another one and forget(). */
+    private static void goes(StatePress x, int way) {
+        if (way > 0) {
+            Checks.feed(x, Checks.text("~"));
+            CHECKS.due("learn() of another one", x.learn(), 1);
+        }
+        if (way != 1) {
+            x.forget();
+        }
+    }
+
+    private static void forgetLatest() {
+        CHECKS.says(8, "There is no DICTIONARY.");
+        CHECKS.says(8, "There are three LATEST distances (1, 4, 8 at first in a frame):");
+        byte[] content = new Weaver(5).literals(50).row();
+        byte[] book = join(Books.MARK, Books.ID, Books.CODES, Books.SHARES, Books.latest(20, 30, 40), content);
+        int[][] told = {{1, 1}, {4, 2}, {8, 3}, {20, 23}, {30, 33}, {40, 43}};
+        for (int way = 0; way < 3; way++) {
+            for (int[] one : told) {
+                byte[] row = new Weaver(6).sequence(45, one[0], 40).row();
+                StatePress x = new StatePress();
+                for (int times = 0; times < 3; times++) {
+                    Checks.feed(x, book);
+                    CHECKS.due("learn()", x.learn(), 50);
+                    goes(x, way);
+                    Checks.feed(x, row);
+                    x.press(0, 0, 1024);
+                    PlainPress.Book left = way == 1 ? FrameReader.book(Checks.text("~")) : new PlainPress.Book();
+                    CHECKS.due("distance " + one[0] + " is told", FrameReader.tellings(Checks.out(x), left).get(0), one[1]);
+                }
+            }
+        }
+    }
+
+    /** Tables of which each tells its one symbol for nothing, but for the first state: they are the best, as long as they are there. */
+    private static void forgetTables() {
+        CHECKS.says(8, "There is no DICTIONARY.");
+        CHECKS.says(8, "At the beginning of a frame there are else no CODES and no TABLES.");
+        byte[] content = new Weaver(5).literals(400).row();
+        int[][] alone = {new int[5], new int[7], new int[4]};
+        for (int[] points : alone) {
+            points[points.length - 1] = 32;
+        }
+        byte[] book = join(Books.MARK, Books.ID, Books.CODES, PlainPress.told(alone[1]), PlainPress.told(alone[2]), PlainPress.told(alone[0]),
+            Books.LATEST, content);
+        Weaver weaver = new Weaver(6).literals(100);
+        for (int i = 0; i < 3; i++) {
+            weaver.sequence(4, 100 + 7 * i, 6);
+        }
+        byte[] row = weaver.rowFrom(100);
+        for (int way = 0; way < 3; way++) {
+            StatePress x = new StatePress();
+            for (int times = 0; times < 3; times++) {
+                byte[] before = Arrays.copyOf(weaver.row(), 100);
+                Checks.feed(x, join(Arrays.copyOf(book, book.length - 400), before));
+                CHECKS.due("learn()", x.learn(), 100);
+                Checks.feed(x, row);
+                x.press(0, 0, 1024);
+                CHECKS.due("tables as they were, with it", x.about(11), 3);
+                goes(x, way);
+                // The first row of 100 is of kind 0, the second one has the same symbols as before.
+                Checks.feed(x, weaver.row());
+                x.press(0, 0, 100);
+                CHECKS.due("sequences without it", x.about(3), 3);
+                CHECKS.due("tables as they were, without it", x.about(11), 0);
+            }
         }
     }
 

@@ -24,9 +24,7 @@ public final class EdgesListTest {
         // Heads of frames and streams of literals are written, never read.
         "Reading it, what is looked at are always the T highest bits below what was read (bits below the first one are 0):",
         "64 * f + 32 (SINGLE) + 16 (counts for nothing) + 8 (must not be) + 4 (SUMMED) + g.",
-        "An ID of 0, 1, 2 or 4 bytes for g 0 .. 3 (0 with none).",
-        // A sequence takes three bytes at least: 2,667 of them are the most.
-        "256 * (x - 128) + the next byte, if x is below 255;");
+        "An ID of 0, 1, 2 or 4 bytes for g 0 .. 3 (0 with none).");
 
     public static void main(String[] args) throws IOException {
         List<List<String>> named = new ArrayList<>();

@@ -206,20 +206,27 @@ public final class EdgesLiteralsTest {
     private static void codesAsTheyWere() {
         CHECKS.says(9, "the CODES as they were (k 3), when there are such and all literals have codes;");
         byte[] content = Checks.text("~~~~~~~~~~~~~~~~~~~~~~~~~~~~~~~~~~~~~~~~~~");
-        byte[] book = PlainPress.join(Books.MARK, Books.ID, Books.CODES, Books.SHARES, Books.LATEST, content);
-        for (int other = -1; other < 40; other += 13) {
-            byte[] row = bitsOf(40);
-            if (other >= 0) {
-                row[other] = 2;
+        // Codes for 1 and 3; what is another one has none, be it the first of all bytes or the last one.
+        byte[] book = PlainPress.join(Books.MARK, Books.ID, Checks.bytes(130, 0x01, 0x00), Books.SHARES, Books.LATEST, content);
+        for (int at = -1; at < 40; at += 13) {
+            for (int other : new int[] {0, 1, 2, 3, 4, 254, 255}) {
+                byte[] row = bitsOf(40);
+                for (int i = 0; i < row.length; i++) {
+                    row[i] = (byte) (1 + 2 * row[i]);
+                }
+                if (at >= 0) {
+                    row[at] = (byte) other;
+                }
+                String name = other + " at " + at;
+                StatePress x = new StatePress();
+                Checks.feed(x, book);
+                CHECKS.due("learn()", x.learn(), content.length);
+                FrameReader.Block block = block(name, x, PlainPress.join(row, content), FrameReader.book(book), 8);
+                CHECKS.due(name + ", k 3", block.literalKind == 3, at < 0 || other == 1 || other == 3);
+                x.forget();
+                block = block("no codes, " + name, x, PlainPress.join(row, content), NONE, 8);
+                CHECKS.due("no codes, " + name + ", k 3", block.literalKind == 3, false);
             }
-            StatePress x = new StatePress();
-            Checks.feed(x, book);
-            x.learn();
-            FrameReader.Block block = block("another one at " + other, x, PlainPress.join(row, content), FrameReader.book(book), 8);
-            CHECKS.due("another one at " + other + ", k 3", block.literalKind == 3, other < 0);
-            x.forget();
-            block = block("no codes", x, PlainPress.join(row, content), NONE, 8);
-            CHECKS.due("no codes, k 3", block.literalKind == 3, false);
         }
     }
 

@@ -72,9 +72,8 @@ public final class EdgesMakeTest {
         makes("one literal", Checks.text("aaaaaaaaaaaa"), 2, 3, false);
         makes("two literals, the first another", Checks.text("baaaaaaaaaaa"), 2, 3, true);
         makes("two literals, the last another", Checks.text("aaaaaaaaaaab"), 2, 3, true);
-        makes("the same literal thrice", Checks.text("aaaaaaaa"), 2, 8, false);
-        // One literal, four copied, which are too few for LEAST 5: five literals of the same.
-        makes("five of the same literal, and no sequences", Checks.text("aaaaaaaa"), 0, 8, false);
+        // Seven copied ones are too few for LEAST 8: eight literals of the same, and no sequences.
+        makes("eight literals of the same", Checks.text("aaaaaaaa"), 2, 8, false);
     }
 
     private static void codes() {
@@ -203,6 +202,25 @@ public final class EdgesMakeTest {
             CHECKS.due("make()", x.make(1) > 0, true);
             int symbol = distance == 1 ? 0 : distance < 9 ? 1 : 3;
             CHECKS.due("the symbol of distance " + distance, FrameReader.book(Checks.out(x)).tables[1][symbol], 32);
+        }
+        // What was learned before that one, or was read and refused, counts as little.
+        byte[] one = new Weaver(3).sequence(12, 4, 40).sequence(3, 9, 10).sequence(2, 7, 10).row();
+        byte[] want = new PlainPress().make(one, 1);
+        byte[] other = PlainPress.join(Books.MARK, Books.ID, Books.CODES, Books.SHARES, Books.latest(9, 7, 4), Checks.text("0123456789"));
+        byte[] wrong = PlainPress.join(Books.MARK, Books.ID, Books.CODES, Books.SHARES, Books.latest(9, 7, 11), Checks.text("0123456789"));
+        for (int times = 1; times <= 3; times++) {
+            for (byte[] last : new byte[][] {other, wrong, Checks.text("plain")}) {
+                StatePress x = new StatePress();
+                for (int i = 0; i < times; i++) {
+                    Checks.feed(x, other);
+                    CHECKS.due("learn()", x.learn(), 10);
+                }
+                Checks.feed(x, last);
+                CHECKS.due("learn() of the last one", x.learn(), last == other ? 10 : last == wrong ? -4 : 5);
+                Checks.feed(x, one);
+                CHECKS.due("make()", x.make(1), want.length);
+                CHECKS.due("made", Checks.out(x), want);
+            }
         }
         // Content of 8 bytes is enough for a distance of 8.
         StatePress x = new StatePress();

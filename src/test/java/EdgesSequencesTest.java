@@ -10,6 +10,7 @@ public final class EdgesSequencesTest {
 
     public static void main(String[] args) {
         numbers();
+        mostSequences();
         literalLengths();
         matchLengths();
         distances();
@@ -88,6 +89,55 @@ public final class EdgesSequencesTest {
                 CHECKS.due("no sequences, their number", FrameReader.blocks(out, NONE).get(0).sequences, 0);
             }
         }
+    }
+
+    /** All of IN in copies of three bytes, the most sequences that there can be. */
+    private static void mostSequences() {
+        CHECKS.says(9, "256 * (x - 128) + the next byte, if x is below 255;");
+        byte[] content = new Weaver(3).literals(8000).row();
+        PlainPress plain = new PlainPress();
+        plain.book = FrameReader.book(content);
+        for (int n : new int[] {2665, 2666}) {
+            byte[] row = threes(content, n);
+            StatePress x = with(content);
+            Checks.feed(x, row);
+            byte[] want = plain.press(row, 0, 4, 8000);
+            CHECKS.due(n + " sequences: press", x.press(0, 4, 8000), want.length);
+            CHECKS.due(n + " sequences: the frame", Checks.out(x), want);
+            CHECKS.due(n + " sequences: their number", x.about(3), n);
+            CHECKS.due(n + " sequences: no literals", FrameReader.blocks(want, plain.book).get(0).literals, 0);
+            CHECKS.due(n + " sequences: the first byte", x.byteAt(10), 128 + n / 256);
+            CHECKS.due(n + " sequences: the second byte", x.byteAt(11), n % 256);
+        }
+    }
+
+    /** So many times three bytes of the content, none of which go on as they do there. */
+    private static byte[] threes(byte[] content, int n) {
+        boolean[] had = new boolean[content.length];
+        java.util.Set<Integer> across = new java.util.HashSet<>();
+        for (int i = 2; i < content.length; i++) {
+            across.add(three(content, i - 2));
+        }
+        byte[] row = new byte[3 * n];
+        Random random = new Random(n);
+        for (int i = 0; i < n; i++) {
+            int place;
+            do {
+                place = random.nextInt(content.length - 3);
+                System.arraycopy(content, place, row, 3 * i, 3);
+                // What stands across two of them stands nowhere else.
+            } while (had[place] || i > 0 && (across.contains(three(row, 3 * i - 2)) || across.contains(three(row, 3 * i - 1))));
+            had[place] = true;
+            if (i > 0) {
+                across.add(three(row, 3 * i - 2));
+                across.add(three(row, 3 * i - 1));
+            }
+        }
+        return row;
+    }
+
+    private static int three(byte[] row, int at) {
+        return (row[at] & 255) << 16 | (row[at + 1] & 255) << 8 | row[at + 2] & 255;
     }
 
     /** How many sequences a row of its own has, and whether it is packed. */
