@@ -1608,7 +1608,7 @@ public final class StatePress {
             }
         }
 
-        /** How many bytes the sequences have, when their tables, which take whole ones, and their stream have so many bits. */
+        /** How many bytes the sequences have, by the bits of their stream and their tables, which take whole bytes. */
         private int sequenceBytes(int bits) {
             return count == 0 ? 1 : countBytes() + 1 + bits / 8 + 1;
         }
