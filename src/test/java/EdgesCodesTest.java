@@ -327,6 +327,14 @@ public final class EdgesCodesTest {
             CHECKS.due("the length of the most frequent one", lengths[0], 1);
             CHECKS.due("the greatest length", PlainPress.top(lengths), symbols - 1);
         }
+        // So many weights, just below and above 32, 64 and 128 of them: one of each from 1 on has a point, or -1.
+        for (int k = 24; k <= 140; k++) {
+            int[] counts = new int[k + 1];
+            for (int i = 0; i < 12; i++) {
+                counts[k * i / 11] = often[11 - i];
+            }
+            made(k + " weights up to 11", rowOf(counts));
+        }
     }
 
     private static void fiveOrSix() {

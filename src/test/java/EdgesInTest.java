@@ -315,7 +315,7 @@ public final class EdgesInTest {
             }
             CHECKS.due("OUT after turn() of " + one[3], Checks.out(twins.x), out);
             CHECKS.due("write after it", twins.x.write(1, 8), one[3] <= 7992);
-            x7999(twins.x, one[3]);
+            roomForOne(twins.x, one[3]);
             Checks.feed(twins.y, out);
             twins.x.turn();
             twins.alike(CHECKS, "after turn() of " + one[3] + ", and the same bytes,");
@@ -323,7 +323,7 @@ public final class EdgesInTest {
     }
 
     /** OUT of 7,999 leaves room for one byte, that of 8,000 for none. */
-    private static void x7999(StatePress x, int n) {
+    private static void roomForOne(StatePress x, int n) {
         if (n >= 7999) {
             CHECKS.due("write of one byte after turn() of " + n, x.write(1, 1), n < 8000);
         }

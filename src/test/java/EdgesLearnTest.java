@@ -300,12 +300,12 @@ public final class EdgesLearnTest {
     /** A weight of 1 takes five bits here, so that four more are too few, and five are enough. */
     private static void bitsLeft() {
         CHECKS.says(7, "what is read of it are always the highest bits below the END, or below what was read.");
-        for (int zeros = 0; zeros < 16; zeros++) {
-            // The END at each bit of a byte; the bits left below are too few for any weight.
-            int[] even = {16, 16};
-            String bits = Books.twoStates(even, 0, 1, 1, 0) + "1";
-            learns("an END above " + (bits.length() - 1 + zeros) + " bits",
-                Books.described(Books.byStates(PlainPress.told(even), PlainPress.bytes(Books.twoStates(even, padded(zeros)) + "1"))), 8);
+        // Each weight behind the first two takes a bit, so that the END is at each bit of a byte.
+        for (int more = 0; more < 16; more++) {
+            int[] weights = new int[2 + more];
+            weights[0] = 1;
+            weights[1] = 1;
+            learns("an END above " + (10 + more) + " bits", Books.described(Books.byStates(new int[] {16, 16}, weights)), 8);
         }
         CHECKS.says(7, "when fewer bits are left than it takes, the symbol of the other state comes, and that is all.");
         int[] points = {0, -1, 31};
@@ -322,15 +322,6 @@ public final class EdgesLearnTest {
         // A place that takes no bits goes on when none is left: 31 points have such places, 16 have not.
         learns("weights that end", Books.described(Books.byStates(new int[] {0, 16, 16}, 1, 1)), 8);
         learns("weights without an end", Books.described(Books.byStates(new int[] {0, 32}, 1, 1)), -2);
-    }
-
-    /** Some weights, of which two are 1: as many bits more as there are zeros. */
-    private static int[] padded(int zeros) {
-        int[] weights = new int[zeros + 4];
-        weights[0] = 1;
-        weights[1] = 1;
-        weights[zeros + 3] = 0;
-        return weights;
     }
 
     private static void manyWeights() {

@@ -76,12 +76,6 @@ final class Weaver {
         return distance;
     }
 
-    /** The literal is just this one. */
-    Weaver literal(int one) {
-        put((byte) one);
-        return this;
-    }
-
     Weaver copy(int distance, int n) {
         for (int i = 0; i < n; i++) {
             put(row[used - distance]);
