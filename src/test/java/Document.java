@@ -4,6 +4,8 @@ import java.nio.file.Files;
 import java.nio.file.Path;
 import java.util.ArrayList;
 import java.util.List;
+import java.util.regex.Matcher;
+import java.util.regex.Pattern;
 
 /** The words of the document, by which the tests of its boundary cases are named. */
 final class Document {
@@ -25,6 +27,17 @@ final class Document {
         }
         int to = TEXT.indexOf("\n## ", from);
         return (to < 0 ? TEXT.substring(from) : TEXT.substring(from, to)).replaceAll("\\s+", " ");
+    }
+
+    /** The public face: what each member answers, its name and the types that it takes, as "boolean write(long,int)". */
+    static List<String> face() {
+        List<String> all = new ArrayList<>();
+        Matcher member = Pattern.compile("public ([a-zA-Z]+ )?([a-zA-Z]+)\\(([^)]*)\\);").matcher(section("The public face"));
+        while (member.find()) {
+            String types = member.group(3).replaceAll(" \\w+(, |$)", "$1").replace(", ", ",");
+            all.add((member.group(1) == null ? "" : member.group(1)) + member.group(2) + "(" + types + ")");
+        }
+        return all;
     }
 
     /** Whether the promise, or a term that it uses, has these words. */

@@ -14,10 +14,6 @@ import java.util.TreeSet;
 /** The public face, and those of LANGUAGE.md's rules that can be seen without much reading. */
 public final class SourceTest {
     private static final Checks CHECKS = new Checks();
-    private static final Set<String> FACE = new TreeSet<>(List.of(
-        "boolean write(long,int)", "boolean again(int,int)", "void clear()", "boolean turn()", "boolean rule(int,int)",
-        "int learn()", "void forget()", "int press(int,int,int)", "int make(int)", "int about(int)", "int size()",
-        "int byteAt(int)"));
 
     public static void main(String[] args) throws IOException {
         face();
@@ -43,10 +39,12 @@ public final class SourceTest {
                     && !Modifier.isStatic(method.getModifiers()), true);
             }
         }
-        CHECKS.due("the methods " + seen, seen.equals(FACE), true);
         Constructor<?>[] constructors = type.getDeclaredConstructors();
         CHECKS.due("one constructor", constructors.length, 1);
+        CHECKS.due("it is public", Modifier.isPublic(constructors[0].getModifiers()), true);
         CHECKS.due("without parameters", constructors[0].getParameterCount(), 0);
+        seen.add("StatePress()");
+        CHECKS.due("the document's face is " + seen, seen.equals(new TreeSet<>(Document.face())), true);
         for (Field field : type.getDeclaredFields()) {
             CHECKS.due(field + " is private", Modifier.isPrivate(field.getModifiers()), true);
         }
